@@ -34,7 +34,7 @@ public final class CoinsLaid {
     private int faultPlace;
     private int latestTrouble;
     private Table current;
-    private Outlook outlook;
+    private Outlook outlook = new Outlook(0);
     private final Laid laid = new Laid();
     private final Laid toldAsLaid = new Laid();
     private final Past past = new Past();
@@ -88,7 +88,7 @@ public final class CoinsLaid {
         current = table;
         laid.copy(toldAsLaid);
         past.clear();
-        if (outlook == null || !outlook.hasRoomFor(table)) {
+        if (!outlook.hasRoomFor(table)) {
             outlook = new Outlook(table.squares);
         }
         outlook.turnTo(table);
@@ -177,21 +177,21 @@ public final class CoinsLaid {
     }
 
     public int has() {
-        if (current == null || outlook == null) {
+        if (current == null) {
             return refuse(NO_SUCH);
         }
         return accept(outlook.isWon(laid.taken, laid.next()) ? 1 : 0);
     }
 
     public int best() {
-        if (current == null || outlook == null) {
+        if (current == null) {
             return refuse(NO_SUCH);
         }
         return accept(numberOf(outlook.firstWinning(laid.taken, laid.next())));
     }
 
     public int good() {
-        if (current == null || outlook == null) {
+        if (current == null) {
             return refuse(NO_SUCH);
         }
         return accept(outlook.countWinning(laid.taken, laid.next()));
@@ -202,7 +202,7 @@ public final class CoinsLaid {
     }
 
     public long ways() {
-        if (current == null || outlook == null) {
+        if (current == null) {
             return refuse(NO_SUCH);
         }
         accept(0);
@@ -210,7 +210,7 @@ public final class CoinsLaid {
     }
 
     public int heap(int board) {
-        if (current == null || outlook == null) {
+        if (current == null) {
             return refuse(NO_SUCH);
         }
         if (board != NONE && current.boardAt(board) == null) {
@@ -259,7 +259,7 @@ public final class CoinsLaid {
     }
 
     public int elbow() {
-        if (current == null || outlook == null) {
+        if (current == null) {
             return refuse(NO_SUCH);
         }
         return accept(outlook.turningSquare(laid.taken, laid.next()));
@@ -317,28 +317,28 @@ public final class CoinsLaid {
     // ---- players
 
     public int would(int player) {
-        if (outlook == null || !isPlayer(player)) {
+        if (current == null || !isPlayer(player)) {
             return refuse(NO_SUCH);
         }
         return accept(numberOf(players.wouldLay(player, outlook, laid)));
     }
 
     public int match(int player, int other) {
-        if (outlook == null || !isPlayer(player) || !isPlayer(other)) {
+        if (current == null || !isPlayer(player) || !isPlayer(other)) {
             return refuse(NO_SUCH);
         }
         return accept(winnerBehind(players.lengthOfMatch(player, other, outlook, laid)));
     }
 
     public int matchLong(int player, int other) {
-        if (outlook == null || !isPlayer(player) || !isPlayer(other)) {
+        if (current == null || !isPlayer(player) || !isPlayer(other)) {
             return refuse(NO_SUCH);
         }
         return accept(players.lengthOfMatch(player, other, outlook, laid));
     }
 
     public int beats(int player) {
-        if (outlook == null || !isPlayer(player)) {
+        if (current == null || !isPlayer(player)) {
             return refuse(NO_SUCH);
         }
         int beaten = 0;
@@ -379,7 +379,7 @@ public final class CoinsLaid {
     }
 
     public int plays(int player) {
-        if (current == null || outlook == null || !isPlayer(player)) {
+        if (current == null || !isPlayer(player)) {
             return refuse(NO_SUCH);
         }
         if (isOver()) {
@@ -484,7 +484,7 @@ public final class CoinsLaid {
     }
 
     private int read(int measure) {
-        if (current == null || outlook == null) {
+        if (current == null) {
             return refuse(NO_SUCH);
         }
         return accept(outlook.measured(measure, laid.taken, laid.next()));

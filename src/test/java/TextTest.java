@@ -59,6 +59,8 @@ public final class TextTest {
         good("  table  wins apart ;board a wide 1high 1;piece p block 4 , 4 turns second  ", 0);
         good("piece p coin;board a wide 2 high 2;jug a 1,1;table loses", 3);
         good("board wide wide 002 high 1;piece high coin turns first;table wins;jug wide 0,0", 1);
+        good("table loses;board a wide 1 high 1;board aa wide 2 high 1;board z wide 1 high 1;jug aa 1,0;"
+                + "piece azzz coin;piece azz coin", 6);
         good("table loses;board coin wide 7 high 2;piece first coin;piece turns corner 3,3;"
                 + "piece block block 1,1 turns;piece wins corner 2,2 turns", 14 + 14 + 24);
         good("table loses;board a wide 4 high 3;board b wide 2 high 1;piece p corner 2,3 turns", 3 + 4 + 3 + 4);
@@ -166,6 +168,12 @@ public final class TextTest {
         check.fault(SMALL + ";lay a", 1, SMALL.length() + 5);
         check.fault(SMALL + ";lay 0 1", 1, SMALL.length() + 7);
         check.fault(SMALL + ";lay 0000", 1, SMALL.length() + 5);
+        check.fault("cable loses", 1, 0);
+        check.fault("table noses", 1, 6);
+        check.fault("table loses`", 1, 11);
+        check.fault("table loses{", 1, 11);
+        check.fault("board a wide /", 1, 13);
+        check.fault("board a wide :", 1, 13);
         check.fault("table loses.", 1, 11);
         check.fault("table loses\n", 1, 11);
         check.fault("table lo" + (char) 233 + "ses", 1, 6);

@@ -222,6 +222,8 @@ public final class WinningTest {
         check.fine("elbow() of a lost one", x, x.elbow(), 0);
         x = check.on("table loses apart;board a wide 3 high 1;piece p coin");
         check.fine("elbow() beside which none may lie", x, x.elbow(), 1);
+        x = check.on("table loses apart;board a wide 2 high 1;jug a 0,0;piece p coin");
+        check.fine("elbow() not on a jug, though it would turn it there", x, x.elbow(), 1);
         x = check.on(row("wins", 1, "piece p coin"));
         check.fine("elbow() as no room wins", x, x.elbow(), 0);
     }
