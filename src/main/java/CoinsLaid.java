@@ -628,6 +628,7 @@ public final class CoinsLaid {
         final Table table = new Table();
         int fault;
         int place;
+        private long newName;
         private int pairFirst;
         private int pairSecond;
 
@@ -682,18 +683,9 @@ public final class CoinsLaid {
         }
 
         private boolean readBoard() {
-            if (table.boards.size() >= MOST_BOARDS) {
-                return fail(MANY);
-            }
-            if (table.laysMade) {
-                return fail(LACKS);
-            }
-            tokens.advance();
-            if (!isNewName()) {
+            if (!passFirstWord(table.boards.size() < MOST_BOARDS) || !passNewName()) {
                 return false;
             }
-            long name = tokens.wordCode();
-            tokens.advance();
             if (!passWord("wide") || !isWholeWithin(1, MOST_WIDE)) {
                 return false;
             }
@@ -706,16 +698,15 @@ public final class CoinsLaid {
             if (table.squares + wide * high > MOST_SQUARES) {
                 return fail(BOUNDS);
             }
-            table.addBoard(name, wide, high);
+            table.addBoard(newName, wide, high);
             tokens.advance();
             return true;
         }
 
         private boolean readJug() {
-            if (table.laysMade) {
-                return fail(LACKS);
+            if (!passFirstWord(true)) {
+                return false;
             }
-            tokens.advance();
             if (!tokens.isName()) {
                 return fail(FORM);
             }
@@ -737,18 +728,9 @@ public final class CoinsLaid {
         }
 
         private boolean readPiece() {
-            if (table.pieces.size() >= MOST_PIECES) {
-                return fail(MANY);
-            }
-            if (table.laysMade) {
-                return fail(LACKS);
-            }
-            tokens.advance();
-            if (!isNewName()) {
+            if (!passFirstWord(table.pieces.size() < MOST_PIECES) || !passNewName()) {
                 return false;
             }
-            long name = tokens.wordCode();
-            tokens.advance();
             int kind = kindTold();
             if (kind == NONE) {
                 return fail(FORM);
@@ -764,7 +746,7 @@ public final class CoinsLaid {
                 }
                 tokens.advance();
             }
-            Piece piece = new Piece(table.pieces.size(), name, kind, pairFirst, pairSecond);
+            Piece piece = new Piece(table.pieces.size(), newName, kind, pairFirst, pairSecond);
             piece.turns = passPerhaps("turns");
             piece.owner = ownerTold();
             table.pieces.add(piece);
@@ -823,11 +805,28 @@ public final class CoinsLaid {
             return true;
         }
 
-        private boolean isNewName() {
+        /** The first word of a line that no lay may be told ahead of. */
+        private boolean passFirstWord(boolean hasRoom) {
+            if (!hasRoom) {
+                return fail(MANY);
+            }
+            if (table.laysMade) {
+                return fail(LACKS);
+            }
+            tokens.advance();
+            return true;
+        }
+
+        private boolean passNewName() {
             if (!tokens.isName()) {
                 return fail(FORM);
             }
-            return table.isNameTold(tokens.wordCode()) ? fail(AGAIN) : true;
+            newName = tokens.wordCode();
+            if (table.isNameTold(newName)) {
+                return fail(AGAIN);
+            }
+            tokens.advance();
+            return true;
         }
 
         private boolean isWholeWithin(int least, int most) {
