@@ -1,18 +1,53 @@
+import java.lang.reflect.InvocationTargetException;
+import java.lang.reflect.Method;
+import java.util.Arrays;
+import java.util.Comparator;
+
 /** Counts the answers that are not as due, and ends the test with exit code 1 if there was one. */
 final class Check {
-    private final String test;
+    private static final int[] EXTREMES = {Integer.MIN_VALUE, Integer.MAX_VALUE};
+
+    private final String name;
+    private String within = "";
     private int asked;
     private int wrong;
 
-    Check(String test) {
-        this.test = test;
+    Check(String name) {
+        this.name = name;
+    }
+
+    /**
+     * Runs each test of a class by itself: its methods that are named after a promise, "promise07_..".
+     * One that fails is told by its name.
+     */
+    void runAll(Class<?> tests) throws IllegalAccessException {
+        Method[] methods = tests.getDeclaredMethods();
+        Arrays.sort(methods, Comparator.comparing(Method::getName));
+        for (Method method : methods) {
+            if (method.getName().startsWith("promise")) {
+                within = "." + method.getName();
+                run(method);
+            }
+        }
+        within = "";
+        end();
+    }
+
+    private void run(Method method) throws IllegalAccessException {
+        int before = asked;
+        try {
+            method.invoke(null);
+        } catch (InvocationTargetException e) {
+            due("thrown " + e.getCause(), true, false);
+        }
+        due("whether it asks something", asked > before, true);
     }
 
     void due(String call, long got, long want) {
         asked++;
         if (got != want) {
             wrong++;
-            System.out.println(test + ": " + call + " answered " + got + ", due is " + want);
+            System.out.println(name + within + ": " + call + " answered " + got + ", due is " + want);
         }
     }
 
@@ -42,13 +77,37 @@ final class Check {
         due("trouble() behind " + call, x.trouble(), 0);
     }
 
-    void fault(String text, int fault, int place) {
+    interface Call {
+        long of(int argument);
+    }
+
+    /** A call with one argument, which is refused for the numbers below and above those it may be, however far. */
+    void refusedOutside(String call, CoinsLaid x, int least, int most, int trouble, Call asked) {
+        refused(call + " of " + (least - 1), x, asked.of(least - 1), trouble);
+        refused(call + " of " + (most + 1), x, asked.of(most + 1), trouble);
+        for (int far : EXTREMES) {
+            refused(call + " of " + far, x, asked.of(far), trouble);
+        }
+    }
+
+    /** A text with a fault: ^ stands ahead of the place where it is. */
+    void fault(int number, String marked) {
+        int place = marked.indexOf('^');
+        String text = marked.replace("^", "");
         CoinsLaid x = new CoinsLaid();
         refused("table of '" + text + "'", x, tell(x, text), 4);
-        due("fault() of '" + text + "'", x.fault(), fault);
+        due("fault() of '" + text + "'", x.fault(), number);
         due("where() of '" + text + "'", x.where(), place);
         due("told(11) behind '" + text + "'", x.told(11), 0);
         due("told(0) behind '" + text + "'", x.told(0), 0);
+    }
+
+    /** A text without a fault. */
+    void good(String text, int lays) {
+        CoinsLaid x = new CoinsLaid();
+        fine("table of '" + text + "'", x, tell(x, text), lays);
+        due("fault() of '" + text + "'", x.fault(), 0);
+        due("where() of '" + text + "'", x.where(), -1);
     }
 
     /** A new object with this table, which must be without a fault. */
@@ -86,7 +145,7 @@ final class Check {
     }
 
     void end() {
-        System.out.println(test + ": " + asked + " answers, " + wrong + " wrong");
+        System.out.println(name + ": " + asked + " answers, " + wrong + " wrong");
         if (wrong != 0) {
             System.exit(1);
         }
