@@ -8,6 +8,12 @@ public final class WhoHasItTest {
             + "piece q block 2,1 second";
     private static final String THREE = "table loses;board a wide 4 high 1;board b wide 6 high 1;board c wide 2 high 2;"
             + "piece p block 2,1";
+    /** First's block lies on 0 to 2, a jug on 3; second's coin has room on 4 alone. */
+    private static final String SECOND_IS_NEXT = "table loses;board a wide 5 high 1;jug a 3,0;piece p block 3,1 first;"
+            + "piece q coin second;lay 0";
+    /** Of three squares left: behind second's block first lays last by his own coin, behind a coin second does. */
+    private static final String FIRST_ANSWERS = "table loses;board a wide 4 high 1;piece r block 2,1 second;"
+            + "piece p coin first;piece q coin second;lay 3";
     /** Sizes of rows of 0, 1, .. squares, two side by side taken. */
     private static final int[] DAWSON = {0, 0, 1, 1, 2, 0, 3, 1, 1};
 
@@ -144,16 +150,17 @@ public final class WhoHasItTest {
         check.fine("best()", x, x.best(), x.layOf(1, 0, 1, 0, 0));
     }
 
-    /** First's block lies on 0 to 2, a jug on 3; second's coin has room on 4 alone. */
-    private static final String SECOND_IS_NEXT = "table loses;board a wide 5 high 1;jug a 3,0;piece p block 3,1 first;"
-            + "piece q coin second;lay 0";
-
     static void promise16_apart() {
         // of 5 the one in the middle leaves one at each side; of 4 there is none
         CoinsLaid five = check.on("table loses apart;board a wide 5 high 1;piece p coin");
         check.fine("best() of five", five, five.best(), 2);
         CoinsLaid four = check.on("table loses apart;board a wide 4 high 1;piece p coin");
         check.fine("best() of four", four, four.best(), -2);
+    }
+
+    static void promise16_firstsOwnAnswerCounts() {
+        CoinsLaid x = check.on(FIRST_ANSWERS);
+        check.fine("best()", x, x.best(), 8);
     }
 
     static void promise16_ofSecondWhoIsNext() {
@@ -195,6 +202,11 @@ public final class WhoHasItTest {
         check.fine("good() of five", five, five.good(), 1);
         CoinsLaid four = check.on("table loses apart;board a wide 4 high 1;piece p coin");
         check.fine("good() of four", four, four.good(), 0);
+    }
+
+    static void promise17_firstsOwnAnswerCounts() {
+        CoinsLaid x = check.on(FIRST_ANSWERS);
+        check.fine("good()", x, x.good(), 3);
     }
 
     static void promise17_ofSecondWhoIsNext() {
